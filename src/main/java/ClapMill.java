@@ -362,11 +362,6 @@ public final class ClapMill {
         if (what < MOST_BILLED && what >= acts) {
             return NOT_SO;
         }
-        int most = bestBill(acts);
-        return what == MOST_BILLED ? most : order.best[what];
-    }
-
-    private int bestBill(int acts) {
         int most = 0;
         order.begin(acts);
         for (int k = 0; k < order.orders; k++) {
@@ -377,7 +372,7 @@ public final class ClapMill {
             }
             order.turnToNext();
         }
-        return most;
+        return what == MOST_BILLED ? most : order.best[what];
     }
 
     private int groundByBill(int acts) {
@@ -921,19 +916,19 @@ public final class ClapMill {
         }
 
         int mood(int act) {
-            return acts.has(act) ? acts.first[act] : 0;
+            return act >= 0 && act < acts.size ? acts.first[act] : 0;
         }
 
         int minutesOf(int act) {
-            return acts.has(act) ? acts.second[act] : 0;
+            return act >= 0 && act < acts.size ? acts.second[act] : 0;
         }
 
         int taste(int guest) {
-            return guests.has(guest) ? guests.first[guest] : 0;
+            return guest >= 0 && guest < guests.size ? guests.first[guest] : 0;
         }
 
         int hunger(int guest) {
-            return guests.has(guest) ? guests.second[guest] : 0;
+            return guest >= 0 && guest < guests.size ? guests.second[guest] : 0;
         }
 
         int without(int guest, int mood) {
@@ -941,15 +936,15 @@ public final class ClapMill {
         }
 
         int low(int grain) {
-            return grains.has(grain) ? grains.first[grain] : 0;
+            return grain >= 0 && grain < grains.size ? grains.first[grain] : 0;
         }
 
         int high(int grain) {
-            return grains.has(grain) ? grains.second[grain] : 0;
+            return grain >= 0 && grain < grains.size ? grains.second[grain] : 0;
         }
 
         int sacks(int grain) {
-            return grains.has(grain) ? grains.third[grain] : 0;
+            return grain >= 0 && grain < grains.size ? grains.third[grain] : 0;
         }
 
         int allSacks() {
