@@ -150,6 +150,14 @@ public final class AheadTest {
         due.is("whoever is told first", z.seats(0, 0), 0);
         z.push(99);
         due.is("by the speed of now", z.seats(0, 6), 0);
+        // Claps of 9 and of -9 beside: 0 claps 9 first, else -9; 1 claps 9 beside 9, 2 beside -9.
+        ClapMill w = Due.mill("act a 5 9;guest a 0 0;guest b 1 0;guest c 2 0;guest d 3 0;law clap "
+                + "18*((taste = 0 and beside = 0) or (taste = 1 and beside = 9) or (taste = 2 and beside < 0)) - 9;");
+        due.is("9, 9, -9, 9", w.seats(0, 6), 18);
+        int[] best = {0, 1, 3, 2};
+        for (int seat = 0; seat < 4; seat++) {
+            due.is("seat " + seat, w.seats(0, seat), best[seat]);
+        }
     }
 
     private static void enough() {
@@ -210,6 +218,7 @@ public final class AheadTest {
         ClapMill y = Due.mill("grain a 1 99 9;law turn 1;law grit 3;");
         due.is("any speed", y.pushFor(2, 6), 0);
         due.is("by none", y.pushFor(2, 7), -2);
+        due.is("99", Due.mill("grain a 99 99 9;law turn speed;").pushFor(3, 3), 99);
     }
 
     private static void silence() {

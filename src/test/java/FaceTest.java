@@ -88,6 +88,8 @@ public final class FaceTest {
             due.is("fields of " + inside + ": " + fields, fields <= 20, true);
             for (Method method : inside.getDeclaredMethods()) {
                 due.is("parameters of " + method, method.getParameterCount() <= 7, true);
+                boolean bears = FACE.stream().anyMatch(face -> face.contains(" " + method.getName() + "("));
+                due.is("it bears a public one's name: " + method, bears, false);
             }
         }
     }

@@ -183,6 +183,9 @@ public final class HallTest {
         due.is("0 times", worth("0*(0-1000*1000*1000*1000)"), 0);
         due.is("below 0 times below 0", worth("(0-9999)*(0-9999)"), 99980001);
         due.is("product at the limit below 0", worth("(0-1000*1000)*(1000*1000)"), -1000000000000L);
+        due.is("63 times not", worth("not ".repeat(63) + "5"), 0);
+        due.is("62 times not", worth("not ".repeat(62) + "5"), 1);
+        due.is("with brackets", worth("not (".repeat(8) + "not ".repeat(55) + "5" + ")".repeat(8)), 0);
         due.is("product beyond it", worth("(0-1000*1000)*(1000*1000+1)"), error);
     }
 
@@ -248,6 +251,10 @@ public final class HallTest {
             z.go(1);
             due.is("coughed by minute " + (i + 1), z.count(10), counts[i]);
         }
+        // The first number from seed 0 is 12345 by 65536, cut: 0.
+        Due.tell(z, hall + "cough 1;");
+        z.go(1);
+        due.is("seed 0 without a seed", z.count(10), 1);
     }
 
     private static void stagingAndShows() {

@@ -110,6 +110,9 @@ public final class SeenTest {
         ClapMill w = Due.mill(SHOWN + "cough 49;");
         w.see(60, 1, true);
         due.is("as it goes it isn't", w.moods(0), 31);
+        Due.tell(w, "act a 3 3;");
+        w.see(60, 1, true);
+        due.is("by the text of now", w.moods(0), 0);
     }
 
     private static void asking() {
@@ -121,6 +124,8 @@ public final class SeenTest {
         due.is("all are left", x.ask(1, 1), 10);
         x.see(1, 1, true);
         due.is("one is left", x.ask(0, 1), 1);
+        x.see(1, 5, true);
+        due.is("mood 0 alone", x.ask(0, 1), 1);
         x.see(1, 1, false);
         due.is("none: 1", x.ask(0, 0), 1);
         due.is("none: 0", x.ask(0, 1), 0);
@@ -141,6 +146,7 @@ public final class SeenTest {
         due.is("one minute each", x.chance(1, 1, 1), 3);
         due.is("0 sacks", x.chance(1, 1, 0), 10);
         due.is("999 sacks", x.chance(1, 99, 999), 0);
+        due.is("the least seed", x.chance(0, 7, 4), drawn(0, 7, 4, 51));
         due.is("the highest seed", x.chance(Integer.MAX_VALUE, 1, 0), 10);
         due.is("seed -1", x.chance(-1, 1, 1), NONE);
         due.is("n 0", x.chance(1, 0, 1), NONE);
