@@ -17,6 +17,7 @@ public final class AheadEdgeTest {
         aheadCoughsFromFifty();
         aheadRefusedMore();
         aheadThoseThatCameBack();
+        aheadOfTheLatestOfNow();
         flourOfSacks();
         flourOfMinutes();
         flourThatComesBack();
@@ -26,6 +27,7 @@ public final class AheadEdgeTest {
         billWithoutShows();
         seatsOfWhat();
         seatsOfGuests();
+        seatsByAllClaps();
         seatsOfSeveral();
         enoughForSums();
         enoughOfSeveral();
@@ -128,6 +130,27 @@ public final class AheadEdgeTest {
             due.is("in all ahead for " + n, x.ahead(n, 0, 0), ground[n]);
             due.is("of the grain ahead for " + n, x.ahead(n, 1, 0), ground[n]);
         }
+    }
+
+    /** What was ground latest when it is asked is what comes back ahead. */
+    private static void aheadOfTheLatestOfNow() {
+        String hall = "act a 1 1;grain o 1 9 9;grain w 40 99 9;law turn 5*(minute = 0) + 50*(minute = 1) - 9*(minute = 2 or minute = 3) + 5*(minute > 3);";
+        ClapMill x = Due.mill(hall);
+        due.is("from minute 0 on: w comes back", x.ahead(3, 1, 1), 0);
+        x.go(1);
+        due.is("from minute 1 on: w, too", x.ahead(2, 1, 1), 0);
+        due.is("o stays", x.ahead(2, 1, 0), 1);
+        x.go(1);
+        due.is("from minute 2 on: w is the latest", x.ahead(1, 1, 1), 0);
+        due.is("o stays still", x.ahead(2, 1, 0), 1);
+        due.is("nothing comes back", x.tried(3, 0, 1), 2);
+        due.is("by chance, too", x.chance(1, 1, 2), 0);
+        ClapMill y = Due.mill(hall);
+        y.go(2);
+        due.is("never asked before: w is the latest", y.ahead(1, 0, 0), 1);
+        y.ahead(9, 0, 0);
+        due.is("asked for more before: w is the latest", y.ahead(1, 1, 1), 0);
+        due.is("of the first one none comes back", y.ahead(1, 1, 0), 1);
     }
 
     // ---- promise 15: "in how many MINUTES as it goes, 199 at most, as many SACKS are GROUND in all (0: they are)"
@@ -269,6 +292,51 @@ public final class AheadEdgeTest {
         due.is("nine below 0 each", Due.mill("act a 9 1;" + SIX + "law clap 0-99;").seats(0, 6), -54);
         due.is("nine each", Due.mill("act a 9 1;" + SIX + "law clap 99;").seats(0, 6), 54);
         due.is("with an error", Due.mill("act a 9 1;" + SIX + "law clap 1/0;").seats(0, 6), -18);
+    }
+
+    /** Claps from -9 to 9 beside each guest: every order is tried here, too. */
+    private static void seatsByAllClaps() {
+        int[][] tastes = {{0, 1, 2, 3}, {9, 0, 8, 1}, {4, 4, 9, 0}, {1, 9, 1, 9}, {7, 2, 6, 3}};
+        for (int[] of : tastes) {
+            StringBuilder text = new StringBuilder("act a 5 1;");
+            for (int i = 0; i < 4; i++) {
+                text.append("guest ").append((char) ('a' + i)).append(' ').append(of[i]).append(" 0;");
+            }
+            for (int turned = 0; turned < 2; turned++) {
+                String sign = turned == 0 ? "beside*taste - 20*(taste > 5) + 3*taste" : "9*(taste > 4) - 9*(taste < 3) - beside*(taste - 3)";
+                ClapMill x = Due.mill(text + "law clap " + sign + ";");
+                int[] best = new int[4];
+                int most = Integer.MIN_VALUE;
+                for (int code = 0; code < 256; code++) {
+                    int[] order = {code >> 6, code >> 4 & 3, code >> 2 & 3, code & 3};
+                    if ((1 << order[0] | 1 << order[1] | 1 << order[2] | 1 << order[3]) == 15) {
+                        int sum = sumOf(of, order, turned);
+                        if (sum > most) {
+                            most = sum;
+                            best = order;
+                        }
+                    }
+                }
+                for (int seat = 0; seat < 4; seat++) {
+                    due.is("seat " + seat + " by " + sign, x.seats(0, seat), best[seat]);
+                }
+                due.is("sum by " + sign, x.seats(0, 6), most);
+            }
+        }
+    }
+
+    private static int sumOf(int[] tastes, int[] order, int turned) {
+        int sum = 0;
+        int beside = 0;
+        for (int guest : order) {
+            int taste = tastes[guest];
+            int value = turned == 0
+                    ? beside * taste - (taste > 5 ? 20 : 0) + 3 * taste
+                    : (taste > 4 ? 9 : 0) - (taste < 3 ? 9 : 0) - beside * (taste - 3);
+            beside = Math.max(-9, Math.min(9, value));
+            sum += beside;
+        }
+        return sum;
     }
 
     private static void seatsOfSeveral() {

@@ -458,6 +458,17 @@ public final class HallEdgeTest {
         due.is("grit: no taste, no hunger", y.count(8), 2);
         y.go(1);
         due.is("turn: tired is the sacks ground", y.count(6), 72);
+        // Turn and grit have no guest, though guests clapped by theirs just ahead of it.
+        ClapMill w = Due.mill("act a 7 9;guest g 2 3;grain o 1 99 99;show a 0;law clap taste + hunger;law turn 4 + taste*9 + hunger*9;"
+                + "law grit 1 + taste + hunger;");
+        w.go(1);
+        due.is("claps by taste and hunger", Due.guest(w, 0, 4), 5);
+        due.is("turn: not by those", w.count(6), 4);
+        due.is("grit: not by those", w.count(8), 1);
+        due.is("law(0) by them", w.law(0, 0), 5);
+        due.is("law(1) not by them", w.law(1, 0), 4);
+        due.is("law(0) again", w.law(0, 0), 5);
+        due.is("law(2) not by them", w.law(2, 0), 1);
         ClapMill z = Due.mill("law turn minute;");
         z.go(99);
         due.is("minute 98", z.count(6), 98);

@@ -24,6 +24,7 @@ public final class SeenEdgeTest {
         moodsOfMinutes();
         moodsOfWrongOnes();
         moodsFromTheTextOn();
+        moodsLeaveTheMoodTold();
         askOfWrongOnes();
         askOfMinutes();
         askAtWorst();
@@ -278,6 +279,29 @@ public final class SeenEdgeTest {
         int seated = y.moods(0);
         y.change(0, 1);
         due.is("moods though seats were changed", y.moods(0), seated);
+    }
+
+    /** What is asked behind it goes by the MOOD told again. */
+    private static void moodsLeaveTheMoodTold() {
+        ClapMill x = Due.mill(BY_MOOD);
+        ClapMill y = Due.mill(BY_MOOD);
+        for (int act = 0; act < 2; act++) {
+            x.moods(act);
+            due.is("ahead", x.ahead(1, 0, 0), 3);
+            y.ask(act, 0);
+            due.is("chance: three", y.chance(1, 1, 3), 10);
+            due.is("chance: not four", y.chance(1, 1, 4), 0);
+            due.is("tried", y.tried(0, 0, 1), 3);
+            due.is("flour of four", y.flour(4), -2);
+            due.is("bill: three of each", y.bill(4), 6);
+            x.stage(0);
+            x.moods(act);
+            due.is("law of what is on", x.law(1, 0), 3);
+            x.undo();
+        }
+        x.ask(0, 1);
+        x.go(1);
+        due.is("go", x.count(8), 3);
     }
 
     // ---- promise 31

@@ -41,6 +41,9 @@ public final class TextEdgeTest {
         leastFaultOfAPlace();
         moreMustCome();
         grammarOfPhrases();
+        ranksOfJoints();
+        nothingOfAnEarlierText();
+        nothingOfAFaultyText();
         lettersOfNames();
         due.end();
     }
@@ -74,6 +77,7 @@ public final class TextEdgeTest {
             due.is("new: no law " + what, new ClapMill().law(what, 0), Long.MIN_VALUE);
             due.is("new: no name " + what, new ClapMill().named(what, 0), NONE);
         }
+        due.is("new: no coughs", new ClapMill().quiet(6, 0), 1);
         due.is("new: no image", new ClapMill().back(), NONE);
         due.is("new: nothing to undo", new ClapMill().undo(), NONE);
     }
@@ -611,6 +615,105 @@ public final class TextEdgeTest {
             } else {
                 bad("law " + word + " 1;", 1, 4);
             }
+        }
+    }
+
+    private static void worth(String phrase, long want) {
+        due.is("'" + phrase + "'", Due.mill("law turn " + phrase + ";").law(1, 0), want);
+    }
+
+    /** Sums below products, comparisons below sums, not below comparisons, and below not, or below and. */
+    private static void ranksOfJoints() {
+        String[] signs = {"<", "<=", "=", "<>", ">=", ">"};
+        for (int i = 0; i < signs.length; i++) {
+            String sign = signs[i];
+            boolean[] less = {true, true, false, true, false, false};
+            boolean[] like = {false, true, true, false, true, false};
+            worth("1 + 2 " + sign + " 3 + 4", less[i] ? 1 : 0);
+            worth("2 + 2 " + sign + " 3 + 1", like[i] ? 1 : 0);
+            worth("3 * 2 " + sign + " 9 - 3", like[i] ? 1 : 0);
+            worth("not 5 " + sign + " 6", less[i] ? 0 : 1);
+            worth("not 6 " + sign + " 6", like[i] ? 0 : 1);
+            worth("2 and 5 " + sign + " 6", less[i] ? 1 : 0);
+            worth("5 " + sign + " 6 and 2", less[i] ? 1 : 0);
+            worth("0 or 5 " + sign + " 6", less[i] ? 1 : 0);
+            worth("5 " + sign + " 6 or 0", less[i] ? 1 : 0);
+            for (String other : signs) {
+                bad("law turn 1" + sign + "2" + other + "3;", 1, 11 + sign.length());
+                bad("law turn 1" + sign + "2+3" + other + "4;", 1, 13 + sign.length());
+                bad("law turn not 1" + sign + "2" + other + "3;", 1, 15 + sign.length());
+                good("law turn (1" + sign + "2)" + other + "3;", 1);
+                good("law turn 1" + sign + "2 and 3" + other + "4;", 1);
+            }
+        }
+        worth("1 or 0 and 0", 1);
+        worth("0 and 0 or 1", 1);
+        worth("not 0 and 0", 0);
+        worth("not 1 or 1", 1);
+        worth("0 and not 0", 0);
+        worth("9 - 4 - 3", 2);
+        worth("9 - 4 + 3", 8);
+        worth("9 - 4 * 2", 1);
+        worth("8 / 2 * 3", 12);
+        worth("8 * 3 / 5", 4);
+        worth("8 / 2 / 2", 2);
+        worth("9 - (4 - 3)", 8);
+        worth("8 / (2 * 4)", 1);
+        worth("not not 7", 1);
+    }
+
+    /** Each text begins anew: neither the one ahead of it nor the one ahead of that is told. */
+    private static void nothingOfAnEarlierText() {
+        String first = "act a 1 1;guest a 1 1;grain a 1 99 1;show a 0;cough 7;seed 5;law clap 11;law turn 12;law grit 13;";
+        for (int texts = 1; texts <= 3; texts++) {
+            ClapMill x = Due.mill(first);
+            for (int i = 1; i < texts; i++) {
+                Due.tell(x, "");
+            }
+            due.is("all of it again behind " + texts, Due.tell(x, first), 9);
+            due.is("its clap", x.law(0, 0), 11);
+            due.is("its turn", x.law(1, 0), 12);
+            due.is("its grit", x.law(2, 0), 13);
+            due.is("its knots", x.count(4), 3);
+            ClapMill y = Due.mill(first);
+            for (int i = 0; i < texts; i++) {
+                Due.tell(y, "guest b 2 2;");
+            }
+            for (int what = 0; what <= 2; what++) {
+                due.is("no law " + what + " behind " + texts, y.law(what, 0), Long.MIN_VALUE);
+            }
+            int[] counts = {0, 1, 0, 0, 0};
+            for (int what = 0; what <= 4; what++) {
+                due.is("count(" + what + ") behind " + texts, y.count(what), counts[what]);
+            }
+            due.is("no cough behind " + texts, y.quiet(1, 0), 1);
+        }
+        numbersOfAnEarlierText();
+    }
+
+    private static void numbersOfAnEarlierText() {
+        // Without a seed of its own a text's is 0: its first number is 0, below a cough of 1.
+        ClapMill x = Due.mill("seed 99999;");
+        for (int i = 0; i < 3; i++) {
+            Due.tell(x, "act a 1 1;show a 0;cough 1;");
+            x.go(1);
+            due.is("seed 0 in text " + i, x.count(10), 1);
+        }
+    }
+
+    private static void nothingOfAFaultyText() {
+        String[] spoilt = {"law clap 1+2*(3-4#", "law clap (((((1#", "law clap 1+#", "law turn not not #", "seed 7;cough 8;#",
+            "law clap 5;law turn 6;law grit 7;#", "act a 1 1;guest a 1 1;grain a 1 1 1;show a 1;#",
+            "law grit " + "(".repeat(9), "law clap not 1" + "+1".repeat(32)};
+        for (String text : spoilt) {
+            ClapMill x = new ClapMill();
+            due.is("'" + text + "'", Due.tell(x, text), NONE);
+            due.is("behind '" + text + "'", Due.tell(x, "guest a 3 3;law clap 4;law turn (5);law grit 6-1;seed 1;cough 9;"), 6);
+            due.is("clap behind '" + text + "'", x.law(0, 0), 4);
+            due.is("turn behind '" + text + "'", x.law(1, 0), 5);
+            due.is("grit behind '" + text + "'", x.law(2, 0), 5);
+            due.is("knots behind '" + text + "'", x.count(4), 5);
+            due.is("acts behind '" + text + "'", x.count(0), 0);
         }
     }
 

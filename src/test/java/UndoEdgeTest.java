@@ -25,6 +25,7 @@ public final class UndoEdgeTest {
         backWithoutAnImage();
         backAgain();
         backInPlaceOfOneAhead();
+        backToTheLatestGrain();
         backLeavesWhatWasSeen();
         backLeavesNothingToUndo();
         backFromMinuteNineThousand();
@@ -280,6 +281,34 @@ public final class UndoEdgeTest {
         due.is("the latest image", x.back(), 3);
         x.back();
         due.is("the one ahead of it is gone", x.count(5), 3);
+    }
+
+    /** Which grain was ground latest is kept, too. */
+    private static void backToTheLatestGrain() {
+        ClapMill x = Due.mill("grain o 1 9 9;grain w 40 99 9;law turn speed;");
+        x.push(5);
+        x.go(1);
+        x.keep();
+        x.push(45);
+        x.go(1);
+        due.is("w is the latest", x.grain(1, 3), 1);
+        due.is("back", x.back(), 1);
+        due.is("none of w is ground", x.grain(1, 3), 0);
+        x.push(-9);
+        x.go(1);
+        due.is("o comes back", x.grain(0, 3), 0);
+        x.back();
+        x.push(45);
+        x.go(1);
+        x.keep();
+        x.push(-45);
+        x.go(1);
+        due.is("two of o", x.grain(0, 3), 2);
+        x.back();
+        x.push(-99);
+        x.go(1);
+        due.is("w comes back", x.grain(1, 3), 0);
+        due.is("o stays", x.grain(0, 3), 1);
     }
 
     private static void backLeavesWhatWasSeen() {

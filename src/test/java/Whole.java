@@ -1,7 +1,7 @@
 import java.util.ArrayList;
 import java.util.List;
 
-/** All that a mill answers, to tell whether a call has left everything as it was. */
+/** All that a mill answers, to tell whether a call has left everything as it was; some 330 calls. */
 final class Whole {
     private final ClapMill mill;
     private final List<Long> answers = new ArrayList<>();
@@ -13,7 +13,9 @@ final class Whole {
     /** What can be told now without changing anything; answers 0 to 15 are those of count. */
     static long[] now(ClapMill mill) {
         Whole whole = new Whole(mill);
-        whole.askNow();
+        whole.askCounts(0, 15);
+        whole.askText();
+        whole.askHall();
         return whole.row();
     }
 
@@ -23,10 +25,13 @@ final class Whole {
      */
     static long[] toTheEnd(ClapMill mill) {
         Whole whole = new Whole(mill);
-        whole.askNow();
+        whole.askCounts(0, 15);
+        whole.askText();
+        whole.askHall();
         whole.askAhead();
         whole.askSeen();
         whole.undoAll();
+        whole.goOn();
         whole.readTape();
         return whole.row();
     }
@@ -39,30 +44,43 @@ final class Whole {
         answers.add(answer);
     }
 
-    private void askNow() {
-        for (int what = 0; what <= 15; what++) {
+    private void askCounts(int from, int to) {
+        for (int what = from; what <= to; what++) {
             add(mill.count(what));
         }
+    }
+
+    private void askText() {
         for (int i = 0; i < 6; i++) {
-            for (int what = 0; what <= 4; what++) {
-                add(Due.guest(mill, i, what));
-            }
+            add(Due.guest(mill, i, 0));
+            add(Due.guest(mill, i, 1));
             add(mill.act(i, 0));
             add(mill.act(i, 1));
-            add(mill.act(i, 2));
-            add(mill.law(0, i));
         }
         for (int i = 0; i < 4; i++) {
-            for (int what = 0; what <= 3; what++) {
+            for (int what = 0; what <= 2; what++) {
                 add(mill.grain(i, what));
             }
         }
-        add(mill.law(1, 0));
-        add(mill.law(2, 0));
         add(mill.quiet(6, 0));
-        add(mill.named(0, 1 << 25));
-        add(mill.named(1, 1 << 25));
-        add(mill.named(2, 1 << 25));
+        for (int what = 0; what <= 2; what++) {
+            add(mill.named(what, 1 << 25));
+        }
+    }
+
+    private void askHall() {
+        for (int i = 0; i < 6; i++) {
+            for (int what = 2; what <= 4; what++) {
+                add(Due.guest(mill, i, what));
+            }
+            add(mill.act(i, 2));
+        }
+        for (int i = 0; i < 4; i++) {
+            add(mill.grain(i, 3));
+        }
+        for (int what = 0; what <= 2; what++) {
+            add(mill.law(what, 0));
+        }
     }
 
     private void askAhead() {
@@ -84,40 +102,40 @@ final class Whole {
         }
     }
 
-    /** Undoes all, lets minutes go by, goes back to the image and lets minutes go by from there. */
     private void undoAll() {
         for (int i = 0; i < 21; i++) {
             add(mill.undo());
             add(mill.count(6));
-            add(mill.count(12));
-            add(Due.guest(mill, 0, 2));
         }
-        add(mill.go(9));
-        askNow();
-        add(mill.back());
-        askNow();
-        add(mill.go(9));
-        askNow();
+        askCounts(5, 15);
+        askHall();
     }
 
-    /** How much the tape holds, found by asking for too much, and what text that is. */
+    /** Lets minutes go by, goes back to the image and lets minutes go by from there. */
+    private void goOn() {
+        add(mill.go(9));
+        askCounts(5, 15);
+        askHall();
+        add(mill.back());
+        askCounts(5, 15);
+        askHall();
+        add(mill.go(9));
+        askCounts(5, 15);
+        askHall();
+    }
+
+    /** How much the tape holds, by twenty bytes more, and what text that is. */
     private void readTape() {
-        int most = 700;
-        int least = 0;
-        while (least < most) {
-            // Each feed has twenty bytes, so does the tape: text() of one more is -2, and the tape stays.
-            int middle = least + (most - least) / 40 * 20 + 20;
-            if (middle > most) {
-                break;
-            }
-            int fed = mill.feed(0x20202020, 0x20202020, 0x20202020, 0x20202020, 0x20202020);
-            add(fed);
-            least = fed < 0 ? most : most + 1;
-        }
-        add(mill.text(40));
         add(mill.fault(0));
         add(mill.fault(1));
-        add(mill.count(0));
-        add(mill.count(1));
+        int fed = mill.feed(0x20202020, 0x20202020, 0x20202020, 0x20202020, 0x20202020);
+        add(fed);
+        add(mill.text(701));
+        add(mill.text(fed < 0 ? 700 : fed));
+        add(mill.fault(0));
+        add(mill.fault(1));
+        askCounts(0, 4);
+        add(mill.act(0, 0));
+        add(mill.quiet(1, 0));
     }
 }
