@@ -294,16 +294,19 @@ public final class AheadEdgeTest {
         due.is("with an error", Due.mill("act a 9 1;" + SIX + "law clap 1/0;").seats(0, 6), -18);
     }
 
+    private static final String[] LAWS = {"beside*taste - 20*(taste > 5) + 3*taste", "9*(taste > 4) - 9*(taste < 3) - beside*(taste - 3)",
+        "8 - 17*(taste/2*2 = taste) + beside*(taste - 4)/3"};
+
     /** Claps from -9 to 9 beside each guest: every order is tried here, too. */
     private static void seatsByAllClaps() {
-        int[][] tastes = {{0, 1, 2, 3}, {9, 0, 8, 1}, {4, 4, 9, 0}, {1, 9, 1, 9}, {7, 2, 6, 3}};
+        int[][] tastes = {{0, 1, 2, 3}, {9, 0, 8, 1}, {4, 4, 9, 0}, {1, 9, 1, 9}, {7, 2, 6, 3}, {8, 3, 0, 5}, {3, 0, 6, 1}, {2, 5, 7, 9}};
         for (int[] of : tastes) {
             StringBuilder text = new StringBuilder("act a 5 1;");
             for (int i = 0; i < 4; i++) {
                 text.append("guest ").append((char) ('a' + i)).append(' ').append(of[i]).append(" 0;");
             }
-            for (int turned = 0; turned < 2; turned++) {
-                String sign = turned == 0 ? "beside*taste - 20*(taste > 5) + 3*taste" : "9*(taste > 4) - 9*(taste < 3) - beside*(taste - 3)";
+            for (int turned = 0; turned < LAWS.length; turned++) {
+                String sign = LAWS[turned];
                 ClapMill x = Due.mill(text + "law clap " + sign + ";");
                 int[] best = new int[4];
                 int most = Integer.MIN_VALUE;
@@ -330,9 +333,11 @@ public final class AheadEdgeTest {
         int beside = 0;
         for (int guest : order) {
             int taste = tastes[guest];
-            int value = turned == 0
-                    ? beside * taste - (taste > 5 ? 20 : 0) + 3 * taste
-                    : (taste > 4 ? 9 : 0) - (taste < 3 ? 9 : 0) - beside * (taste - 3);
+            int value = switch (turned) {
+                case 0 -> beside * taste - (taste > 5 ? 20 : 0) + 3 * taste;
+                case 1 -> (taste > 4 ? 9 : 0) - (taste < 3 ? 9 : 0) - beside * (taste - 3);
+                default -> 8 - (taste % 2 == 0 ? 17 : 0) + beside * (taste - 4) / 3;
+            };
             beside = Math.max(-9, Math.min(9, value));
             sum += beside;
         }

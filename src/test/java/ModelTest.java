@@ -144,8 +144,14 @@ public final class ModelTest {
 
     // ---- calls
 
-    /** A number from one below 0 to one above the most, so that wrong ones come, too. */
+    private static final int[] WILD = {Integer.MIN_VALUE, Integer.MIN_VALUE + 1, -1000000, -2, 1 << 16, 1 << 30, Integer.MAX_VALUE - 1,
+        Integer.MAX_VALUE};
+
+    /** A number from one below 0 to one above the most, now and then far beyond, so that wrong ones come, too. */
     private int about(int most) {
+        if (dice.nextInt(60) == 0) {
+            return WILD[dice.nextInt(WILD.length)];
+        }
         return dice.nextInt(12) == 0 ? (dice.nextBoolean() ? -1 : most + 1) : upTo(most);
     }
 
